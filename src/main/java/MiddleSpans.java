@@ -52,7 +52,6 @@ public final class MiddleSpans {
         snapshot = new State();
         text = new Text();
         reader = new Reader();
-        kept = false;
     }
 
     // ---- spans
@@ -627,7 +626,7 @@ public final class MiddleSpans {
     /** All spans that there have been; a removed one keeps its row, so that no number is given twice. */
     private static final class Spans {
         int size;
-        final boolean[] there = new boolean[MOST_SPANS];
+        private long there;
         final int[] left = new int[MOST_SPANS];
         final int[] right = new int[MOST_SPANS];
         final int[] first = new int[MOST_SPANS];
@@ -636,7 +635,11 @@ public final class MiddleSpans {
         final int[] timesEntered = new int[MOST_SPANS];
 
         boolean has(int span) {
-            return span >= 0 && span < size && there[span];
+            return span >= 0 && span < size && isThere(span);
+        }
+
+        boolean isThere(int span) {
+            return isMember(there, span);
         }
 
         int append(int leftEnd, int rightEnd, boolean leftBelongs, boolean rightBelongs) {
@@ -645,14 +648,11 @@ public final class MiddleSpans {
             }
             int span = size;
             size++;
-            there[span] = true;
+            there |= 1L << span;
             left[span] = leftEnd;
             right[span] = rightEnd;
             first[span] = leftBelongs ? leftEnd : leftEnd + 1;
             last[span] = rightBelongs ? rightEnd : rightEnd - 1;
-            // The row may still hold what a span had that was undone.
-            ticksInside[span] = 0;
-            timesEntered[span] = 0;
             return span;
         }
 
@@ -663,14 +663,12 @@ public final class MiddleSpans {
             last[span] += by;
         }
 
+        void takeAway(int span) {
+            there &= ~(1L << span);
+        }
+
         int countThere() {
-            int count = 0;
-            for (int span = 0; span < size; span++) {
-                if (there[span]) {
-                    count++;
-                }
-            }
-            return count;
+            return Long.bitCount(there);
         }
 
         int shortestOf(long set) {
@@ -690,7 +688,7 @@ public final class MiddleSpans {
             int pairs = 0;
             for (int span = 0; span < size; span++) {
                 for (int other = 0; other < span; other++) {
-                    if (there[span] && there[other]
+                    if (isThere(span) && isThere(other)
                             && first[span] <= last[other] && first[other] <= last[span]) {
                         pairs++;
                     }
@@ -702,7 +700,7 @@ public final class MiddleSpans {
         int countDifferent(int[] places) {
             int different = 0;
             for (int span = 0; span < size && span < places.length; span++) {
-                if (there[span] && !occursBefore(places, span)) {
+                if (isThere(span) && !occursBefore(places, span)) {
                     different++;
                 }
             }
@@ -711,7 +709,7 @@ public final class MiddleSpans {
 
         private boolean occursBefore(int[] places, int span) {
             for (int other = 0; other < span; other++) {
-                if (there[other] && places[other] == places[span]) {
+                if (isThere(other) && places[other] == places[span]) {
                     return true;
                 }
             }
@@ -720,7 +718,7 @@ public final class MiddleSpans {
 
         void copyFrom(Spans other) {
             size = other.size;
-            System.arraycopy(other.there, 0, there, 0, MOST_SPANS);
+            there = other.there;
             System.arraycopy(other.left, 0, left, 0, MOST_SPANS);
             System.arraycopy(other.right, 0, right, 0, MOST_SPANS);
             System.arraycopy(other.first, 0, first, 0, MOST_SPANS);
@@ -745,20 +743,14 @@ public final class MiddleSpans {
             return walker >= 0 && walker < size;
         }
 
-        int append(int place0, int speed0) {
+        int append(int atPlace, int withSpeed) {
             if (size >= MOST_WALKERS) {
                 return FULL;
             }
             int walker = size;
             size++;
-            place[walker] = place0;
-            speed[walker] = speed0;
-            // The row may still hold what a walker had who was undone.
-            inside[walker] = 0L;
-            entered[walker] = 0;
-            left[walker] = 0;
-            way[walker] = 0;
-            turns[walker] = 0;
+            place[walker] = atPlace;
+            speed[walker] = withSpeed;
             return walker;
         }
 
@@ -848,12 +840,12 @@ public final class MiddleSpans {
         final int[] subject = new int[MOST_EVENTS];
         final int[] tick = new int[MOST_EVENTS];
 
-        void write(int kind0, int walker0, int subject0, int tick0) {
+        void write(int ofKind, int ofWalker, int ofSubject, int atTick) {
             latest = Math.floorMod(latest + 1, MOST_EVENTS);
-            kind[latest] = kind0;
-            walker[latest] = walker0;
-            subject[latest] = subject0;
-            tick[latest] = tick0;
+            kind[latest] = ofKind;
+            walker[latest] = ofWalker;
+            subject[latest] = ofSubject;
+            tick[latest] = atTick;
             if (size < MOST_EVENTS) {
                 size++;
             }
@@ -873,7 +865,11 @@ public final class MiddleSpans {
         }
     }
 
-    /** What the document calls a state: all that the history and the snapshot bring back. */
+    /**
+     * What the document calls a state: all that the history and the snapshot bring back. Rows are copied whole,
+     * those that are not in use too, so that a row that is not in use always holds zeros: whoever comes next
+     * finds nothing there of one who was undone.
+     */
     private static final class State {
         int tick;
         final Spans spans = new Spans();
@@ -935,7 +931,7 @@ public final class MiddleSpans {
         void build(Spans spans) {
             Arrays.fill(sets, 0L);
             for (int span = 0; span < spans.size; span++) {
-                if (spans.there[span]) {
+                if (spans.isThere(span)) {
                     flip(spans.first[span], span);
                     flip(spans.last[span] + 1, span);
                 }
@@ -985,13 +981,13 @@ public final class MiddleSpans {
         }
 
         int countFree() {
-            int free = 0;
+            int count = 0;
             for (int place = 0; place < PLACES; place++) {
                 if (sets[place] == 0L) {
-                    free++;
+                    count++;
                 }
             }
-            return free;
+            return count;
         }
     }
 
@@ -1043,7 +1039,7 @@ public final class MiddleSpans {
             Arrays.fill(lying, 0);
             Arrays.fill(ways, 0);
             for (int span = 0; span < spans.size; span++) {
-                if (spans.there[span]) {
+                if (spans.isThere(span)) {
                     lay(span, spans.first[span], spans.last[span]);
                 }
             }
@@ -1112,7 +1108,7 @@ public final class MiddleSpans {
         private int lookedAtIn(int middle, int place, Spans spans) {
             int reaching = 0;
             for (int span = 0; span < spans.size; span++) {
-                if (spans.there[span] && middleOf[span] == middle && reaches(spans, span, place, middle)) {
+                if (spans.isThere(span) && middleOf[span] == middle && reaches(spans, span, place, middle)) {
                     reaching++;
                 }
             }
@@ -1140,7 +1136,7 @@ public final class MiddleSpans {
         int greatestDepth(Spans spans) {
             int greatest = 0;
             for (int span = 0; span < spans.size; span++) {
-                if (spans.there[span]) {
+                if (spans.isThere(span)) {
                     greatest = Math.max(greatest, depthOf[span]);
                 }
             }
@@ -1186,7 +1182,7 @@ public final class MiddleSpans {
         }
 
         int removeSpan(int span) {
-            state.spans.there[span] = false;
+            state.spans.takeAway(span);
             layOut();
             return tellAll();
         }

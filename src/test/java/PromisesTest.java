@@ -478,6 +478,9 @@ public final class PromisesTest {
         x.move(0, 100);
         x.undo();
         due("span(0, 0)", x.span(0, 0), 5);
+        due("span(0, 1)", x.span(0, 1), 15);
+        due("span(0, 2)", x.span(0, 2), 5);
+        due("span(0, 3)", x.span(0, 3), 15);
         due("ask(5, 0)", x.ask(5, 0), 1);
         x.undo();
         due("count(0)", x.count(0), 0);
@@ -488,6 +491,39 @@ public final class PromisesTest {
         due("event(0, 0)", x.event(0, 0), 0);
         due("pass(4) again", x.pass(4), 1);
         due("event(0, 3)", x.event(0, 3), 3);
+        undoBringsAllBack();
+    }
+
+    private static void undoBringsAllBack() {
+        x = new MiddleSpans();
+        x.come(900, 0);
+        x.come(20, 0);
+        x.come(990, 50);
+        x.add(0, 30);
+        x.pass(5);
+        for (int place = 1; place < 20; place++) {
+            x.put(1, 50);
+            x.put(0, place);
+            x.put(1, place);
+            x.pass(1);
+            for (int i = 0; i < 4; i++) {
+                x.undo();
+            }
+        }
+        int[][] walkers = {{900, 1000, 0, 0, 0, NONE, NONE, 0, 0}, {20, 1000, 1, 1, 0, 5, 0, 0, 0},
+            {760, 950, 0, 0, 0, NONE, NONE, 250, 1}};
+        for (int walker = 0; walker < walkers.length; walker++) {
+            for (int what = 0; what <= 8; what++) {
+                due("walker(" + walker + ", " + what + ")", x.walker(walker, what), walkers[walker][what]);
+            }
+        }
+        int[][] events = {{2, 2, 960, 1}, {0, 1, 0, 0}};
+        for (int back = 0; back < events.length; back++) {
+            for (int what = 0; what < 4; what++) {
+                due("event(" + back + ", " + what + ")", x.event(back, what), events[back][what]);
+            }
+        }
+        due("event(2, 0)", x.event(2, 0), NONE);
     }
 
     private static void promise13() {
@@ -738,6 +774,9 @@ public final class PromisesTest {
         due("most(0)", x.most(0), 0);
         due("most(1)", x.most(1), 0);
         due("most(2)", x.most(2), 1001);
+        x.add(1, 1);
+        due("most(0)", x.most(0), 1);
+        x.undo();
         x.add(1000, 1000);
         due("most(0)", x.most(0), 1000);
         due("most(1)", x.most(1), 1);
@@ -785,6 +824,10 @@ public final class PromisesTest {
         x.speed(0, 25);
         due("changesIn(0): behind a turn", x.changesIn(0), 1);
         due("it changes nothing", x.walker(0, 0), 995);
+        x.put(0, 1000);
+        x.speed(0, 20);
+        x.move(1, -40);
+        due("changesIn(0): some ticks behind a turn", x.changesIn(0), 3);
         x = new MiddleSpans();
         x.add(10, 12);
         x.add(13, 20);
@@ -823,6 +866,7 @@ public final class PromisesTest {
         x.come(1000, 20);
         x.come(940, 10);
         due("meetIn(3, 4): behind a turn", x.meetIn(3, 4), 2);
+        due("meetIn(4, 3): behind a turn", x.meetIn(4, 3), 2);
         due("it changes nothing", x.walker(3, 0), 1000);
         due("it changes nothing", x.walker(3, 8), 0);
         due("it is no act", x.count(9), 4);
@@ -835,6 +879,12 @@ public final class PromisesTest {
         for (int what = 0; what < 4; what++) {
             due("index(" + what + ")", x.index(what), NONE);
         }
+        x.add(0, 0);
+        dueOfIndex(9, 8, 1, 0);
+        x.undo();
+        x.add(1, 1);
+        dueOfIndex(10, 9, 1, 1);
+        x.undo();
         x.add(500, 500);
         dueOfIndex(1, 0, 1, 500);
         x.add(0, 1000);
@@ -932,6 +982,11 @@ public final class PromisesTest {
         x.add(4, 5);
         due("count(6): the place 2", x.count(6), 1);
         due("count(8): 1, 2, 4 and 2, 3, 5", x.count(8), 6);
+        x.add(0, 1);
+        due("count(6): the place 1", x.count(6), 2);
+        x.add(5, 5);
+        due("count(6): the place 5", x.count(6), 3);
+        due("count(8): 0, 1, 2, 4, 5 and 1, 2, 3, 5", x.count(8), 9);
     }
 
     private static void dueOfCount(int[] answers) {
