@@ -496,34 +496,34 @@ public final class PromisesTest {
 
     private static void undoBringsAllBack() {
         x = new MiddleSpans();
-        x.come(900, 0);
+        x.add(0, 30);
+        x.come(10, 0);
         x.come(20, 0);
         x.come(990, 50);
-        x.add(0, 30);
         x.pass(5);
         for (int place = 1; place < 20; place++) {
             x.put(1, 50);
+            x.put(0, 100 + place);
+            x.pass(100);
             x.put(0, place);
-            x.put(1, place);
-            x.pass(1);
             for (int i = 0; i < 4; i++) {
                 x.undo();
             }
         }
-        int[][] walkers = {{900, 1000, 0, 0, 0, NONE, NONE, 0, 0}, {20, 1000, 1, 1, 0, 5, 0, 0, 0},
+        int[][] walkers = {{10, 1000, 1, 1, 0, 5, 0, 0, 0}, {20, 1000, 1, 1, 0, 5, 0, 0, 0},
             {760, 950, 0, 0, 0, NONE, NONE, 250, 1}};
         for (int walker = 0; walker < walkers.length; walker++) {
             for (int what = 0; what <= 8; what++) {
                 due("walker(" + walker + ", " + what + ")", x.walker(walker, what), walkers[walker][what]);
             }
         }
-        int[][] events = {{2, 2, 960, 1}, {0, 1, 0, 0}};
+        int[][] events = {{2, 2, 960, 1}, {0, 1, 0, 0}, {0, 0, 0, 0}};
         for (int back = 0; back < events.length; back++) {
             for (int what = 0; what < 4; what++) {
                 due("event(" + back + ", " + what + ")", x.event(back, what), events[back][what]);
             }
         }
-        due("event(2, 0)", x.event(2, 0), NONE);
+        due("event(3, 0)", x.event(3, 0), NONE);
     }
 
     private static void promise13() {
