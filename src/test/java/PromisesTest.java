@@ -22,15 +22,11 @@ public final class PromisesTest {
     }
 
     private static void write(String text) {
-        x.clearText();
-        for (int i = 0; i < text.length(); i++) {
-            x.type(text.charAt(i));
-        }
+        Texts.write(x, text);
     }
 
     private static int read(String text) {
-        write(text);
-        return x.readSpans();
+        return Texts.read(x, text);
     }
 
     private static void promise1() {
@@ -218,6 +214,21 @@ public final class PromisesTest {
         x.remove(0);
         due("remove(1)", x.remove(1), 1);
         due("index(0)", x.index(0), NONE);
+        removeTellsHowManyLeaveIt();
+    }
+
+    private static void removeTellsHowManyLeaveIt() {
+        x = new MiddleSpans();
+        x.add(10, 20);
+        x.add(0, 1000);
+        x.add(30, 40);
+        for (int walker = 0; walker < 6; walker++) {
+            x.come(walker < 5 ? 15 : 21, 0);
+        }
+        due("remove(2): none", x.remove(2), 0);
+        due("remove(0): those of the other do not count", x.remove(0), 5);
+        due("remove(1): all", x.remove(1), 6);
+        due("count(5)", x.count(5), 11);
     }
 
     private static void promise5() {
@@ -264,6 +275,29 @@ public final class PromisesTest {
         due("span(0, 1)", x.span(0, 1), 500);
         x.remove(0);
         due("move of a removed one", x.move(0, 5), UNKNOWN);
+        moveTellsHowManyLeaveOrEnterIt();
+    }
+
+    private static void moveTellsHowManyLeaveOrEnterIt() {
+        x = new MiddleSpans();
+        x.add(0, 10);
+        x.add(0, 20);
+        for (int walker = 0; walker < 6; walker++) {
+            x.come(walker < 2 ? 0 : walker < 3 ? 10 : 20, 0);
+        }
+        due("move(0, 10): two leave, three enter, one stays", x.move(0, 10), 5);
+        due("move(0, -10): back again", x.move(0, -10), 5);
+        due("move(0, 100): they do not leave the other", x.move(0, 100), 3);
+        due("move(0, 890): to the end, and nobody is told", x.move(0, 890), 0);
+        due("move(0, 1): past the end", x.move(0, 1), NOT_POSSIBLE);
+        due("move(0, -990): to the other end", x.move(0, -990), 3);
+        due("move(0, -1): past the other end", x.move(0, -1), NOT_POSSIBLE);
+        due("move(1, 980)", x.move(1, 980), 6);
+        due("move(1, -980)", x.move(1, -980), 6);
+        x.add(0, 1000);
+        for (int by : new int[] {1, -1, 1000, -1000}) {
+            due("move(2, " + by + "): the whole line", x.move(2, by), NOT_POSSIBLE);
+        }
     }
 
     private static void promise6() {
@@ -382,6 +416,7 @@ public final class PromisesTest {
         due("walker(0, 7)", x.walker(0, 7), 12);
         due("walker(1, 7)", x.walker(1, 7), 40);
         turnIsToldAhead();
+        everyTickIsToldOf();
         x = new MiddleSpans();
         for (int i = 0; i < 99; i++) {
             due("pass(100)", x.pass(100), 0);
@@ -392,6 +427,27 @@ public final class PromisesTest {
         due("pass(99) at 9900", x.pass(99), 0);
         due("count(0)", x.count(0), 9999);
         due("pass(1) at 9999", x.pass(1), NOT_POSSIBLE);
+    }
+
+    private static void everyTickIsToldOf() {
+        x = new MiddleSpans();
+        x.add(500, 500);
+        x.add(500, 501);
+        x.come(499, 1);
+        x.come(502, -1);
+        due("pass(4): each enters both and leaves both", x.pass(4), 8);
+        x.undo();
+        int changes = 0;
+        for (int tick = 0; tick < 4; tick++) {
+            changes += x.pass(1);
+        }
+        due("pass(1) four times", changes, 8);
+        due("count(9): each one is an act", x.count(9), 4);
+        x = new MiddleSpans();
+        x.add(0, 0);
+        x.come(0, 50);
+        x.come(0, 0);
+        due("pass(100) out of one, and into it and out of it each time", x.pass(100), 1 + 2 * 2);
     }
 
     private static void turnIsToldAhead() {
@@ -540,6 +596,18 @@ public final class PromisesTest {
         due("restore(): the later snapshot", x.restore(), 1);
         due("count(1)", x.count(1), 2);
         due("span(1, 0)", x.span(1, 0), 3);
+        while (x.count(1) < 60) {
+            x.add(500, 600);
+        }
+        due("keep() of as many as there can be", x.keep(), 59);
+        for (int span = 1; span < 60; span++) {
+            x.remove(span);
+        }
+        due("restore() of them", x.restore(), 59);
+        due("keep() again", x.keep(), 59);
+        due("undo()", x.undo(), 3);
+        due("keep() of none", x.keep(), 0);
+        due("restore() of none", x.restore(), 0);
     }
 
     private static void promise14() {
@@ -621,6 +689,30 @@ public final class PromisesTest {
         x.add(10, 20);
         due("span(0, 7) of a new one behind undo", x.span(0, 7), 0);
         due("span(0, 8) of a new one behind undo", x.span(0, 8), 0);
+        spanTellsOfAllWalkers();
+    }
+
+    private static void spanTellsOfAllWalkers() {
+        x = new MiddleSpans();
+        x.add(10, 20);
+        for (int walker = 0; walker < 6; walker++) {
+            due("span(0, 6)", x.span(0, 6), walker);
+            due("span(0, 8)", x.span(0, 8), walker);
+            x.come(15, 0);
+        }
+        due("span(0, 6): all", x.span(0, 6), 6);
+        x.pass(1);
+        due("span(0, 7): all together", x.span(0, 7), 6);
+        x.put(0, 0);
+        x.pass(1);
+        due("span(0, 7): all but one", x.span(0, 7), 11);
+        x.put(0, 10);
+        due("span(0, 8): one of them again", x.span(0, 8), 7);
+        x.move(0, 100);
+        due("span(0, 6): none", x.span(0, 6), 0);
+        x.move(0, -100);
+        due("span(0, 8): all of them again", x.span(0, 8), 13);
+        due("span(0, 7): moved without a tick", x.span(0, 7), 11);
     }
 
     private static void promise16() {
@@ -657,6 +749,45 @@ public final class PromisesTest {
         due("walker(0, 5)", x.walker(0, 5), 7);
         due("walker(0, 6): entered again, it is not the oldest", x.walker(0, 6), 1);
         due("walker(0, 7)", x.walker(0, 7), 60);
+        oldestByTicksAlone();
+        oldestAtTheLastTick();
+    }
+
+    private static void oldestByTicksAlone() {
+        x = new MiddleSpans();
+        x.come(500, 0);
+        x.add(600, 700);
+        x.add(500, 500);
+        due("walker(0, 6)", x.walker(0, 6), 1);
+        x.move(0, -100);
+        due("walker(0, 6): of several in a tick the lowest", x.walker(0, 6), 0);
+        due("walker(0, 5)", x.walker(0, 5), 0);
+        x.pass(1);
+        x.move(0, 100);
+        x.move(0, -100);
+        due("walker(0, 6): entered a tick later", x.walker(0, 6), 1);
+        due("walker(0, 5)", x.walker(0, 5), 1);
+        x.remove(1);
+        due("walker(0, 6): the one that is left", x.walker(0, 6), 0);
+        due("walker(0, 5)", x.walker(0, 5), 0);
+        x.remove(0);
+        due("walker(0, 6): none is left", x.walker(0, 6), NONE);
+        due("walker(0, 5)", x.walker(0, 5), NONE);
+    }
+
+    private static void oldestAtTheLastTick() {
+        x = new MiddleSpans();
+        x.come(500, 0);
+        x.add(0, 10);
+        for (int i = 0; i < 99; i++) {
+            x.pass(100);
+        }
+        x.pass(99);
+        due("walker(0, 6) at 9999", x.walker(0, 6), NONE);
+        x.put(0, 5);
+        due("walker(0, 5), entered at 9999", x.walker(0, 5), 0);
+        due("walker(0, 6), entered at 9999", x.walker(0, 6), 0);
+        due("event(0, 3)", x.event(0, 3), 9999);
     }
 
     private static void promise17() {
@@ -737,6 +868,23 @@ public final class PromisesTest {
         due("ask(10, 4): of several the lowest number", x.ask(10, 4), 1);
         due("ask(4, 4)", x.ask(4, 4), 0);
         due("ask(16, 4)", x.ask(16, 4), 3);
+        x = new MiddleSpans();
+        x.add(0, 1000);
+        for (int place : new int[] {0, 499, 500, 501, 1000}) {
+            dueOfAsk(place, new int[] {1, 1, 1, 0, 0});
+        }
+        read("[0,1000);(0,1000];(499,501)");
+        due("ask(0, 4)", x.ask(0, 4), 1);
+        due("ask(1000, 4)", x.ask(1000, 4), 2);
+        due("ask(499, 4): of several the lowest number", x.ask(499, 4), 1);
+        due("ask(500, 4): one place", x.ask(500, 4), 3);
+        x.add(500, 500);
+        due("ask(500, 4): one place, too", x.ask(500, 4), 3);
+        x.remove(3);
+        due("ask(500, 4): the one that is there", x.ask(500, 4), 4);
+        due("ask(500, 3)", x.ask(500, 3), 0);
+        x.remove(0);
+        due("ask(500, 3): the lowest that is there", x.ask(500, 3), 1);
     }
 
     private static void dueOfAsk(int place, int[] answers) {
@@ -765,6 +913,27 @@ public final class PromisesTest {
         x.remove(1);
         due("free(0, true)", x.free(0, true), 11);
         due("it is no act", x.count(9), 3);
+        freeAtTheEndsOfTheLine();
+    }
+
+    private static void freeAtTheEndsOfTheLine() {
+        x = new MiddleSpans();
+        read("(0,1000)");
+        due("free(0, true): itself", x.free(0, true), 0);
+        due("free(0, false): itself", x.free(0, false), 0);
+        due("free(1000, false): itself", x.free(1000, false), 1000);
+        due("free(1, true): to the very end", x.free(1, true), 1000);
+        due("free(999, false): to the very end", x.free(999, false), 0);
+        x.add(0, 0);
+        due("free(999, false): none", x.free(999, false), NONE);
+        due("free(0, true): to the very end", x.free(0, true), 1000);
+        x.add(1000, 1000);
+        for (int place : new int[] {0, 1, 500, 999, 1000}) {
+            due("free(" + place + ", true): none", x.free(place, true), NONE);
+            due("free(" + place + ", false): none", x.free(place, false), NONE);
+        }
+        x.remove(1);
+        due("free(1000, false): to the very end", x.free(1000, false), 0);
     }
 
     private static void promise20() {
@@ -792,6 +961,22 @@ public final class PromisesTest {
         due("most(1)", x.most(1), 3);
         x.remove(2);
         due("most(0)", x.most(0), 1000);
+        x = new MiddleSpans();
+        x.add(1000, 1000);
+        x.add(0, 0);
+        due("most(0): of several the lowest", x.most(0), 0);
+        due("most(1)", x.most(1), 1);
+        due("most(2)", x.most(2), 999);
+        x.add(1000, 1000);
+        due("most(0): the last place", x.most(0), 1000);
+        due("most(1)", x.most(1), 2);
+        due("most(2)", x.most(2), 999);
+        for (int span = 0; span < 3; span++) {
+            x.remove(span);
+        }
+        due("most(0): all were removed", x.most(0), 0);
+        due("most(1)", x.most(1), 0);
+        due("most(2)", x.most(2), 1001);
     }
 
     private static void promise21() {
@@ -844,6 +1029,28 @@ public final class PromisesTest {
         x.speed(0, 0);
         x.speed(0, 1);
         due("changesIn(0) at the last tick", x.changesIn(0), 11);
+        changesInTwoHundred();
+    }
+
+    private static void changesInTwoHundred() {
+        x = new MiddleSpans();
+        x.add(0, 199);
+        x.come(0, 1);
+        due("changesIn(0): it leaves in 200", x.changesIn(0), 200);
+        x.undo();
+        x.undo();
+        x.add(0, 200);
+        x.come(0, 1);
+        due("changesIn(0): it leaves in 201", x.changesIn(0), NONE);
+        x.speed(0, 50);
+        due("changesIn(0): it leaves in 5", x.changesIn(0), 5);
+        due("pass(4): nothing until then", x.pass(4), 0);
+        due("changesIn(0)", x.changesIn(0), 1);
+        due("pass(1): then it leaves", x.pass(1), 1);
+        due("changesIn(0): it comes back, turned", x.changesIn(0), 31);
+        due("pass(30)", x.pass(30), 0);
+        due("pass(1)", x.pass(1), 1);
+        due("it is no act", x.count(9), 4);
     }
 
     private static void promise22() {
@@ -870,6 +1077,21 @@ public final class PromisesTest {
         due("it changes nothing", x.walker(3, 0), 1000);
         due("it changes nothing", x.walker(3, 8), 0);
         due("it is no act", x.count(9), 4);
+        x = new MiddleSpans();
+        x.come(10, 0);
+        x.come(11, 0);
+        due("meetIn(0, 1): never", x.meetIn(0, 1), NONE);
+        x.speed(0, 1);
+        due("meetIn(0, 1): in the next tick", x.meetIn(0, 1), 1);
+        x.speed(0, -1);
+        x.put(1, 180);
+        due("meetIn(0, 1): in 190, turned", x.meetIn(0, 1), 190);
+        x.put(1, 190);
+        due("meetIn(0, 1): in 200, turned", x.meetIn(0, 1), 200);
+        x.put(1, 191);
+        due("meetIn(0, 1): in 201, turned", x.meetIn(0, 1), NONE);
+        x.put(1, 10);
+        due("meetIn(0, 1): now, and then no more", x.meetIn(0, 1), 0);
     }
 
     private static void promise23() {
@@ -987,6 +1209,22 @@ public final class PromisesTest {
         x.add(5, 5);
         due("count(6): the place 5", x.count(6), 3);
         due("count(8): 0, 1, 2, 4, 5 and 1, 2, 3, 5", x.count(8), 9);
+        x = new MiddleSpans();
+        read("[0,10);[10,20];(20,30);[29,30)");
+        due("count(6): ends that do not belong to them are no place", x.count(6), 1);
+        due("count(8): 0, 10, 21, 29 and 9, 20, 29", x.count(8), 7);
+        x = new MiddleSpans();
+        while (x.count(1) < 60) {
+            x.add(7, 7);
+        }
+        for (int walker = 0; walker < 6; walker++) {
+            x.come(7, 0);
+        }
+        write("123456789012345678901234567890123456789012345678901234567890");
+        dueOfCount(new int[] {0, 60, 60, 6, 360, 0, 1770, 60, 2, 4, 60});
+        x.move(59, 1);
+        x.remove(0);
+        dueOfCount(new int[] {0, 60, 59, 6, 360, 12, 1653, 58, 4, 4, 60});
     }
 
     private static void dueOfCount(int[] answers) {
