@@ -748,6 +748,8 @@ public final class PromisesTest {
         x.put(0, 29);
         due("walker(0, 5)", x.walker(0, 5), 7);
         due("walker(0, 6): entered again, it is not the oldest", x.walker(0, 6), 1);
+        due("walker(0, 3): entered again, it counts again", x.walker(0, 3), 7);
+        due("walker(0, 4)", x.walker(0, 4), 4);
         due("walker(0, 7)", x.walker(0, 7), 60);
         oldestByTicksAlone();
         oldestAtTheLastTick();
